@@ -131,6 +131,12 @@ public final class BookTest {
         check.due("first letter off", x.candidate(Check.code("qbcde"), 0), 0);
         check.due("an empty book", new Codewordcable().candidates(0), 0);
         check.due("an empty book, the first", new Codewordcable().candidate(0, 0), NONE);
+        Codewordcable turned = threeIdeas();
+        turned.entry(Check.code("abcde"), 0, NONE, NONE, NONE);
+        turned.entry(Check.code("bacde"), 1, NONE, NONE, NONE);
+        check.due("the same ahead of one that is turned", turned.candidates(Check.code("bacde")), 1);
+        check.due("the same one's entry", turned.candidate(Check.code("bacde"), 0), 1);
+        check.due("no second one", turned.candidate(Check.code("bacde"), 1), NONE);
         Codewordcable same = small();
         check.due("a turn of two that are the same", same.candidates(Check.code("aaaaa")), 1);
         check.due("between both", same.candidates(Check.code("abaaa")), 2);

@@ -30,6 +30,18 @@ public final class WrongTest {
         return x;
     }
 
+    /** A message of the code word of the number 0. */
+    private static Codewordcable sentZero() {
+        Codewordcable x = new Codewordcable();
+        Check.offices(x, 2);
+        x.cable(0, 1, 1, 20);
+        Check.ideas(x, 20);
+        x.entry(0, 0, NONE, NONE, NONE);
+        x.draft(0);
+        x.send(0, 1, Codewordcable.ORDINARY, true);
+        return x;
+    }
+
     private static Codewordcable delivered() {
         Codewordcable x = sent();
         x.pass(1);
@@ -76,6 +88,9 @@ public final class WrongTest {
         check.due("right again", x.claim(0), 17);
         x.pass(1);
         check.due("after it came", x.claim(0), 17);
+        Codewordcable zero = sentZero();
+        zero.wrong(0, 0, 3, 1);
+        check.due("in the first word", zero.claim(0), 3);
         check.refused("claim(1)", Check.INDEX, WrongTest::sent, y -> y.claim(1));
         check.refused("claim(-1)", Check.INDEX, WrongTest::sent, y -> y.claim(-1));
     }
@@ -109,6 +124,9 @@ public final class WrongTest {
         }
         x.draft(3);
         x.send(1, 0, Codewordcable.ORDINARY, false);
+        check.due("the code word 0", sentZero().word(0, 0, true), 0);
+        check.due("the code word 0 goes wrong", sentZero().wrong(0, 0, 0, 1), 26 * 26 * 26 * 26);
+        check.due("the code word 0 is read", sentZero().read(0, 0), 0);
         check.due("a plain word of idea 3", x.word(1, 0, false), -5);
         check.refused("message 1", Check.INDEX, WrongTest::sent, y -> y.word(1, 0, true));
         check.refused("message -1", Check.INDEX, WrongTest::sent, y -> y.word(-1, 0, true));
