@@ -9,6 +9,7 @@ public final class SendTest {
         leastRates();
         fewestCables();
         lowestCables();
+        lowestLastCable();
         brokenCables();
         routesStay();
         stoppedAtOnce();
@@ -153,6 +154,31 @@ public final class SendTest {
         route("the lower of two alike", y, 0, 1, "0");
         y.cable(1, 0, 4, 20);
         route("the less dear of three", y, 0, 1, "2");
+    }
+
+    /** "and so on": to the seventh cable of the longest way, of cables that are alike but for their numbers. */
+    private static void lowestLastCable() {
+        Codewordcable x = offices(8);
+        for (int i = 0; i < 3; i++) {
+            x.cable(6, 7, 5, 20);
+        }
+        for (int i = 5; i >= 0; i--) {
+            x.cable(i + 1, i, 5, 20);
+        }
+        for (int i = 0; i < 3; i++) {
+            x.cable(7, 6, 5, 20);
+        }
+        route("the lowest of six at the last", x, 0, 7, "8765430");
+        route("the lowest of six at the first", x, 7, 0, "0345678");
+        int[] broken = {0, 1, 2, 9, 10};
+        String[] next = {"1", "2", "9", "a", "b"};
+        for (int i = 0; i < broken.length; i++) {
+            x.broken(broken[i], true);
+            route("the next lowest at the last", x, 0, 7, "876543" + next[i]);
+            route("the next lowest at the first", x, 7, 0, next[i] + "345678");
+        }
+        x.broken(1, false);
+        route("one that is mended", x, 0, 7, "8765431");
     }
 
     private static void brokenCables() {
