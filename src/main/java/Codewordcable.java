@@ -414,7 +414,7 @@ public final class Codewordcable {
     /** The latest conference told whose day has come counts, but for those that the office reserves. */
     private Rules rulesAt(Office office) {
         int today = minute / MINUTES_A_DAY;
-        for (int i = conferenceCount - 1; i >= 0; i--) {
+        for (int i = Math.min(conferenceCount, conferences.length) - 1; i >= 0; i--) {
             Rules told = conferences[i];
             if (told != null && told.day <= today && !office.reserves(told.number)) {
                 return told;
@@ -794,8 +794,9 @@ public final class Codewordcable {
             paid = 0;
         }
 
-        int wordAt(int place) {
-            return isOutside(place, 0, wordCount - 1) || place >= words.length ? NONE : words[place];
+        /** The words of the draft that was cut last, in a new row. */
+        int[] wordRow() {
+            return Arrays.copyOf(words, Math.max(0, Math.min(wordCount, words.length)));
         }
 
         /** Cuts the draft as an office with that key and those rules sends it. */
@@ -1107,6 +1108,11 @@ public final class Codewordcable {
             return NONE;
         }
 
+        /** The cables of the route that was found last, in a new row. */
+        int[] routeRow() {
+            return Arrays.copyOf(route, Math.max(0, Math.min(routeLength, route.length)));
+        }
+
         int routeRate() {
             int sum = 0;
             for (int i = 0; i < routeLength && i < route.length; i++) {
@@ -1139,13 +1145,9 @@ public final class Codewordcable {
             kind = ofKind;
             paid = packer.paid;
             hasCode = packer.codeCount > 0;
-            sent = new int[packer.wordCount];
-            now = new int[packer.wordCount];
-            for (int i = 0; i < sent.length && i < now.length; i++) {
-                sent[i] = packer.wordAt(i);
-                now[i] = sent[i];
-            }
-            route = Arrays.copyOf(net.route, net.routeLength);
+            sent = packer.wordRow();
+            now = packer.wordRow();
+            route = net.routeRow();
             price = priceAt(net.routeRate());
             state = UNDERWAY;
             at = first;

@@ -21,7 +21,8 @@ final class Check {
     static final Class<?> ARGUMENT = IllegalArgumentException.class;
     static final Class<?> STATE = IllegalStateException.class;
 
-    private static final Probe[] PROBES = {Check::asked, Check::setAnew, Check::toldMore, Check::sentOn};
+    private static final Probe[] PROBES = {Check::asked, Check::setAnew, Check::ruledOn, Check::toldMore,
+        Check::wentOn, Check::sentOn};
 
     private int count = 0;
     private int wrong = 0;
@@ -36,6 +37,14 @@ final class Check {
 
     void due(String what, boolean got, boolean want) {
         due(what, got ? 1 : 0, want ? 1 : 0);
+    }
+
+    void due(String what, String got, String want) {
+        count++;
+        if (!got.equals(want)) {
+            wrong++;
+            System.out.println(what + " answered " + got + ", due is " + want);
+        }
     }
 
     /** The call throws just this exception, and the object answers as one on which it was not called. */
@@ -142,14 +151,25 @@ final class Check {
         tell(all, x, y -> y.claim(message));
     }
 
-    /** What is set at each office, and which rules count there on the next days. */
+    /** What is reserved and what is set at each office. */
     private static String setAnew(Codewordcable x) {
         StringBuilder all = new StringBuilder();
+        for (int i = 0; i < 48; i++) {
+            int office = i / 12;
+            int latestLeft = 12 - i % 12;
+            tell(all, x, y -> y.reserve(office, latestLeft));
+        }
         for (int i = 0; i < 8; i++) {
             int office = i;
             tell(all, x, y -> y.key(office, 1));
             tell(all, x, y -> y.forbid(office, false) ? 1 : 0);
         }
+        return all.toString();
+    }
+
+    /** Which rules count at each office on the next days. */
+    private static String ruledOn(Codewordcable x) {
+        StringBuilder all = new StringBuilder();
         tell(all, x, y -> y.draft(0));
         for (int i = 0; i < 4; i++) {
             for (int j = 0; j < 4; j++) {
@@ -158,11 +178,6 @@ final class Check {
                 tell(all, x, y -> y.words(office, true));
             }
             tell(all, x, y -> y.rest(1));
-        }
-        for (int i = 0; i < 48; i++) {
-            int office = i / 12;
-            int latestLeft = 12 - i % 12;
-            tell(all, x, y -> y.reserve(office, latestLeft));
         }
         return all.toString();
     }
@@ -181,6 +196,20 @@ final class Check {
         tell(all, x, y -> y.words(0, true));
         tell(all, x, y -> y.pass(1));
         tell(all, x, y -> y.rest(1));
+        return all.toString();
+    }
+
+    /** How the messages go on, minute by minute. */
+    private static String wentOn(Codewordcable x) {
+        StringBuilder all = new StringBuilder();
+        for (int minute = 0; minute < 12; minute++) {
+            tell(all, x, y -> y.pass(1));
+            for (int i = 0; i < 4; i++) {
+                int message = i;
+                tell(all, x, y -> y.ofMessage(message, 4));
+            }
+            tell(all, x, y -> y.ofMessage(59, 4));
+        }
         return all.toString();
     }
 

@@ -1,31 +1,23 @@
-import java.io.IOException;
 import java.lang.reflect.Constructor;
 import java.lang.reflect.Field;
 import java.lang.reflect.Method;
 import java.lang.reflect.Modifier;
-import java.nio.file.Files;
-import java.nio.file.Path;
-import java.util.ArrayList;
-import java.util.List;
 import java.util.Set;
 import java.util.TreeSet;
 
-/** The public face of the document, and the rules of LANGUAGE.md that can be counted. */
+/** The public face of the document: its constants, its constructor, its methods and what they name to throw. */
 public final class FaceTest {
     private static final Class<?> I = int.class;
     private static final Class<?> B = boolean.class;
     private static final Check check = new Check();
     private static final Set<String> names = new TreeSet<>();
 
-    public static void main(String[] args) throws IOException {
+    public static void main(String[] args) {
         face();
         nothingElse();
-        sizes(Codewordcable.class);
-        for (Class<?> inside : Codewordcable.class.getDeclaredClasses()) {
-            sizes(inside);
+        for (Class<?> held : Codewordcable.class.getDeclaredClasses()) {
+            inside(held);
         }
-        check.due("classes in the file, 12 at most", 1 + Codewordcable.class.getDeclaredClasses().length <= 12, true);
-        source();
         check.end();
     }
 
@@ -81,58 +73,25 @@ public final class FaceTest {
         check.due("methods of the face", names.size(), 23);
         Set<String> constants = Set.of("NONE", "UNCLEAR", "DEFERRED", "ORDINARY", "URGENT",
                 "UNDERWAY", "DELIVERED", "STOPPED");
+        int found = 0;
         for (Field field : Codewordcable.class.getDeclaredFields()) {
-            int want = constants.contains(field.getName()) ? open | Modifier.STATIC : Modifier.PRIVATE;
+            boolean named = constants.contains(field.getName());
+            found += named && field.getType() == I ? 1 : 0;
+            int want = named ? open | Modifier.STATIC : Modifier.PRIVATE;
             check.due(field + " is of the face or private", field.getModifiers() & want, want);
         }
+        check.due("constants that are int", found, constants.size());
         Constructor<?>[] made = Codewordcable.class.getDeclaredConstructors();
         check.due("one constructor", made.length, 1);
         check.due("without parameters", made[0].getParameterCount(), 0);
+        check.due("that is public", made[0].getModifiers(), Modifier.PUBLIC);
     }
 
-    private static void sizes(Class<?> counted) {
-        int fields = 0;
-        for (Field field : counted.getDeclaredFields()) {
-            boolean fixed = Modifier.isStatic(field.getModifiers());
-            fields += fixed ? 0 : 1;
-            check.due(field + " is final if it is static", !fixed || Modifier.isFinal(field.getModifiers()), true);
+    /** Rule 1 of LANGUAGE.md, as far as the classes inside go. */
+    private static void inside(Class<?> held) {
+        check.due(held + " is not public", Modifier.isPublic(held.getModifiers()), false);
+        for (Method method : held.getDeclaredMethods()) {
+            check.due(method + " bears no name of the face", names.contains(method.getName()), false);
         }
-        check.due(counted + " has 20 fields at most", fields <= 20, true);
-        for (Method method : counted.getDeclaredMethods()) {
-            check.due(method + " has 7 parameters at most", method.getParameterCount() <= 7, true);
-            if (counted != Codewordcable.class) {
-                check.due(method + " bears no name of the face", names.contains(method.getName()), false);
-            }
-        }
-        for (Constructor<?> made : counted.getDeclaredConstructors()) {
-            check.due(made + " has 7 parameters at most", made.getParameterCount() <= 7, true);
-        }
-    }
-
-    private static void source() throws IOException {
-        List<String> lines = Files.readAllLines(Path.of("src/main/java/Codewordcable.java"));
-        String[] ruledOut = {"->", "::", "catch", "finally", "synchronized", "assert", "instanceof", "System.",
-            "import ", ".toString", "hashCode", "record ", "var ", "%n", "Exact"};
-        List<String> found = new ArrayList<>();
-        for (String line : lines) {
-            for (String word : ruledOut) {
-                if (line.contains(word) && !line.equals("import java.util.Arrays;")) {
-                    found.add(line);
-                }
-            }
-        }
-        check.due("lines with what is ruled out " + found, found.size(), 0);
-        check.due("no method above 60 lines", longestStretch(lines) <= 60, true);
-    }
-
-    /** Between two methods there is an empty line, so no method is longer than the longest stretch without one. */
-    private static int longestStretch(List<String> lines) {
-        int longest = 0;
-        int length = 0;
-        for (String line : lines) {
-            length = line.isBlank() ? 0 : length + 1;
-            longest = Math.max(longest, length);
-        }
-        return longest;
     }
 }

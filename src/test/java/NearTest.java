@@ -168,6 +168,12 @@ public final class NearTest {
             check.due(half + ", one of the turned is another", x.candidates(Check.code(half)), 0);
             check.due(more + ", turned and another letter off", x.candidates(Check.code(more)), 0);
         }
+        for (int place = 0; place < 4; place++) {
+            String first = with(with(WORD, place, WORD.charAt(place + 1)), place + 1, 'z');
+            String second = with(with(WORD, place + 1, WORD.charAt(place)), place, 'z');
+            check.due(first + ", the second letter alone moved", x.candidates(Check.code(first)), 0);
+            check.due(second + ", the first letter alone moved", x.candidates(Check.code(second)), 0);
+        }
         check.due("turned at both ends", x.candidates(Check.code("ohtle")), 0);
         check.due("three in a ring", x.candidates(Check.code("othel")), 0);
     }

@@ -23,6 +23,7 @@ public final class QueueTest {
         stoppedWhereItComes();
         forbiddenForAWhile();
         plainIsNotStopped();
+        wrongWordsAreCode();
         wrongWhileUnderway();
         lastMinute();
         afterTheLastMinute();
@@ -134,6 +135,13 @@ public final class QueueTest {
         check.due("one of its two words", x.ofMessage(back, 0), UNDERWAY);
         x.pass(1);
         check.due("both of its words", x.ofMessage(back, 0), DELIVERED);
+        back = plain(x, 1, 0, ORDINARY, 2);
+        there = plain(x, 0, 1, ORDINARY, 2);
+        x.pass(1);
+        check.due("the lower number, back", x.ofMessage(back, 0), DELIVERED);
+        check.due("one of the other's two words", x.ofMessage(there, 0), UNDERWAY);
+        x.pass(1);
+        check.due("both of the other's words", x.ofMessage(there, 0), DELIVERED);
     }
 
     /** "of the messages that are there as the minute begins": whichever cable has the lower number. */
@@ -170,6 +178,19 @@ public final class QueueTest {
         x.pass(1);
         check.due("the second of two words", x.ofMessage(first, 0), DELIVERED);
         check.due("none is there", x.broken(0, true), 0);
+        Codewordcable y = line(1, 0, 1);
+        int message = plain(y, 0, 2, ORDINARY, 2);
+        check.due("none at the second one", y.broken(1, true), 0);
+        y.pass(2);
+        check.due("it comes to a cable that is broken", y.ofMessage(message, 4), 1);
+        check.due("one is there", y.broken(1, true), 1);
+        y.pass(3);
+        check.due("and waits there", y.ofMessage(message, 4), 1);
+        check.due("mended, with one there", y.broken(1, false), 1);
+        y.pass(1);
+        check.due("one of its two words", y.ofMessage(message, 0), UNDERWAY);
+        y.pass(1);
+        check.due("and comes", y.ofMessage(message, 0), DELIVERED);
     }
 
     /** So many minutes at once are as so many one by one: three messages of 19 words over three cables of one word. */
@@ -271,6 +292,20 @@ public final class QueueTest {
         x.conference(0, 5, 15, 0);
         check.due("one code word in it", x.send(0, 2, ORDINARY, true), 3);
         check.due("is enough", x.ofMessage(3, 0), STOPPED);
+    }
+
+    /** A code word that went wrong is one still, whether the book has it or not. */
+    private static void wrongWordsAreCode() {
+        for (int letters = 1; letters <= 5; letters++) {
+            Codewordcable x = line(20, 0, 1);
+            x.forbid(1, true);
+            coded(x, 0, 2);
+            for (int letter = 0; letter < letters; letter++) {
+                x.wrong(0, 0, letter, 25);
+            }
+            x.pass(1);
+            check.due(letters + " letters wrong: STOPPED", x.ofMessage(0, 5), 1);
+        }
     }
 
     /** "While a message is UNDERWAY a letter of a code word in it can go wrong": to its last minute. */

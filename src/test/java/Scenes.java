@@ -10,18 +10,26 @@ final class Scenes {
      * rules of days past and to come, a message halfway with a wrong letter, one DELIVERED, one STOPPED, a draft.
      */
     static Codewordcable middle() {
+        return middleWith(0, x -> 0);
+    }
+
+    /** The same, with one call more: 1 behind the ideas, 2 the offices, 3 the cables, 4 the rules, 5 the messages. */
+    static Codewordcable middleWith(int when, Check.Call more) {
         Codewordcable x = new Codewordcable();
         Check.ideas(x, 20, 16, 15, 5, 1, 10);
+        callAt(x, more, when == 1);
         x.entry(Check.code(BOOK[0]), 0, NONE, NONE, NONE);
         x.entry(Check.code(BOOK[1]), 1, NONE, NONE, NONE);
         x.entry(Check.code(BOOK[2]), 0, 1, NONE, NONE);
         x.entry(Check.code(BOOK[3]), 2, 2, 2, NONE);
         x.entry(Check.code(BOOK[4]), 0, 0, 0, 0);
         Check.offices(x, 4);
+        callAt(x, more, when == 2);
         x.cable(0, 1, 3, 1);
         x.cable(2, 1, 5, 2);
         x.cable(2, 3, 7, 1);
         x.cable(0, 2, 9, 20);
+        callAt(x, more, when == 3);
         x.key(0, 2);
         x.key(1, 7);
         x.key(2, 39);
@@ -30,9 +38,19 @@ final class Scenes {
         x.conference(3, 20, 5, 3);
         x.reserve(1, 1);
         x.reserve(2, 2);
+        callAt(x, more, when == 4);
         middleMessages(x);
+        callAt(x, more, when == 5);
+        x.rest(2);
+        x.pass(3);
         Check.drafts(x, 0, 1, 5);
         return x;
+    }
+
+    private static void callAt(Codewordcable x, Check.Call more, boolean isTime) {
+        if (isTime) {
+            more.on(x);
+        }
     }
 
     /** Message 0 is halfway with a word carried, 1 DELIVERED, 2 STOPPED, 3 plain and at its second cable. */
@@ -49,8 +67,53 @@ final class Scenes {
         x.broken(3, true);
         Check.drafts(x, 5, 5, 5);
         x.send(0, 3, Codewordcable.ORDINARY, false);
-        x.rest(2);
-        x.pass(3);
+    }
+
+    /** The same, with as many of each thing as there can be; the first messages are where they were. */
+    static Codewordcable crowded() {
+        Codewordcable x = middle();
+        for (int i = 6; i < 30; i++) {
+            x.idea(20);
+        }
+        for (int i = 0; i < 35; i++) {
+            x.entry(codeOf(i), i < 24 ? 6 + i : 6, i < 24 ? NONE : i - 24, NONE, NONE);
+        }
+        Check.offices(x, 4);
+        for (int i = 0; i < 8; i++) {
+            x.cable(4 + i % 4, 4 + (i + 1) % 4, 10, 1);
+        }
+        for (int i = 0; i < 9; i++) {
+            x.conference(i % 5, 9, 10, 1);
+        }
+        x.send(0, 1, Codewordcable.ORDINARY, true);
+        for (int i = 5; i < 60; i++) {
+            x.draft(i % 30);
+            x.send(4 + i % 4, 4 + (i + 1) % 4, i % 3, true);
+        }
+        for (int i = 0; i < 24; i++) {
+            x.draft(i);
+        }
+        return x;
+    }
+
+    /** middle(), 20 minutes before the last one; nothing has been carried since. */
+    static Codewordcable late() {
+        Codewordcable x = middle();
+        for (int cable = 0; cable < 4; cable++) {
+            x.broken(cable, true);
+        }
+        for (int i = 0; i < 6; i++) {
+            x.rest(100);
+        }
+        x.rest(92);
+        for (int i = 0; i < 10; i++) {
+            x.pass(60);
+        }
+        x.pass(15);
+        for (int cable = 0; cable < 3; cable++) {
+            x.broken(cable, false);
+        }
+        return x;
     }
 
     static Codewordcable fullOfIdeas() {

@@ -120,6 +120,12 @@ public final class SendTest {
         route("seven of 7 ahead of one of 8", y, 0, 7, "0123456");
         y.cable(0, 7, 7, 20);
         route("one of 7 ahead of seven", y, 0, 7, "8");
+        Codewordcable z = offices(8);
+        z.cable(0, 7, 8, 20);
+        for (int i = 0; i < 7; i++) {
+            z.cable(i, i + 1, 1, 20);
+        }
+        route("seven of 7 ahead of a lower one of 8", z, 0, 7, "1234567");
     }
 
     private static void fewestCables() {

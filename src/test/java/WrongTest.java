@@ -13,6 +13,7 @@ public final class WrongTest {
         readingUnclear();
         readingByKey();
         readingByBook();
+        readingOnTheWay();
         readRefused();
         check.end();
     }
@@ -197,6 +198,35 @@ public final class WrongTest {
         reads("key 1 of three", x, 0, 0, 3, 3, 3, 3, 0, 1, 2);
         x.key(1, 5);
         reads("key 5 of three", x, 0, 0, 3, 0, 3, 3, 3, 3);
+    }
+
+    /** "as its last office reads it": the one to which it goes, wherever it is now, also if it was STOPPED before. */
+    private static void readingOnTheWay() {
+        Codewordcable x = new Codewordcable();
+        Check.offices(x, 4);
+        Check.ideas(x, 20, 20, 20, 20, 20);
+        String[] book = {"aaaaa", "bbbbb", "ccccc", "ddddd", "eeeee"};
+        for (int i = 0; i < book.length; i++) {
+            x.entry(Check.code(book[i]), i, NONE, NONE, NONE);
+        }
+        for (int i = 0; i < 3; i++) {
+            x.cable(i, i + 1, 1, 20);
+        }
+        x.draft(0);
+        x.send(0, 3, Codewordcable.ORDINARY, true);
+        for (int office = 0; office < 4; office++) {
+            x.key(office, office + 1);
+        }
+        x.forbid(2, true);
+        for (int minute = 0; minute < 4; minute++) {
+            reads("key 4 of five in minute " + minute, x, 0, 1);
+            x.pass(1);
+        }
+        check.due("it was STOPPED before", x.ofMessage(0, 5), 2);
+        x.key(2, 3);
+        reads("the key of the office at which it was STOPPED", x, 0, 1);
+        x.key(3, 3);
+        reads("the key of the office to which it goes", x, 0, 2);
     }
 
     private static void readRefused() {
